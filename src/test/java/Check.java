@@ -1,0 +1,132 @@
+/** What the tests share: comparing answers, making objects, and a row of numbers that is always the same. */
+final class Check {
+    static final int NO_PATTERN = -101;
+    static final int WRONG_STATE = -102;
+
+    private final String name;
+    private int asked = 0;
+    private int wrong = 0;
+
+    Check(String name) {
+        this.name = name;
+    }
+
+    void due(String what, Object got, Object want) {
+        asked++;
+        if (!String.valueOf(got).equals(String.valueOf(want))) {
+            wrong++;
+            System.out.println(name + ": " + what + " answered " + got + ", due is " + want);
+        }
+    }
+
+    void end() {
+        System.out.println(name + ": " + asked + " answers, " + wrong + " not as due");
+        if (wrong != 0) {
+            System.exit(1);
+        }
+    }
+
+    /** An object with this pattern written, not compiled. */
+    static PatternWalk written(String pattern) {
+        PatternWalk walk = new PatternWalk();
+        write(walk, pattern);
+        return walk;
+    }
+
+    static void write(PatternWalk walk, String pattern) {
+        for (int i = 0; i < pattern.length(); i++) {
+            if (!walk.pattern(pattern.charAt(i))) {
+                throw new AssertionError("pattern refuses " + pattern.charAt(i) + " at " + i + " of " + pattern);
+            }
+        }
+    }
+
+    static PatternWalk compiled(String pattern) {
+        PatternWalk walk = written(pattern);
+        walk.compile();
+        return walk;
+    }
+
+    static PatternWalk walked(String pattern, boolean search, String word) {
+        PatternWalk walk = compiled(pattern);
+        walk.start(search);
+        feed(walk, word);
+        return walk;
+    }
+
+    static void feed(PatternWalk walk, String word) {
+        for (int i = 0; i < word.length(); i++) {
+            if (!walk.feed(word.charAt(i))) {
+                throw new AssertionError("feed refuses character " + i + " of " + word);
+            }
+        }
+    }
+
+    /** What compile answers, its exceptions as numbers. */
+    static int compile(PatternWalk walk) {
+        try {
+            return walk.compile();
+        } catch (IllegalArgumentException e) {
+            return NO_PATTERN;
+        } catch (IllegalStateException e) {
+            return WRONG_STATE;
+        }
+    }
+
+    /** The program as a text, such as "MARK 0; SPLIT 2 4; TAKE 1; JUMP 1; MARK 1; MATCH". */
+    static String listing(PatternWalk walk) {
+        String[] names = {"TAKE", "SPLIT", "JUMP", "MARK", "MATCH"};
+        StringBuilder list = new StringBuilder();
+        for (int k = 0; walk.instruction(k, 0) != PatternWalk.NONE; k++) {
+            int kind = walk.instruction(k, 0);
+            list.append(k == 0 ? "" : "; ").append(names[kind]);
+            if (kind != 4) {
+                list.append(' ').append(walk.instruction(k, 1));
+            }
+            if (kind == 1) {
+                list.append(' ').append(walk.instruction(k, 2));
+            }
+        }
+        return list.toString();
+    }
+
+    static String marks(PatternWalk walk) {
+        StringBuilder list = new StringBuilder();
+        for (int k = 0; k < 14; k++) {
+            list.append(k == 0 ? "" : " ").append(walk.mark(k));
+        }
+        return list.toString().replaceAll("( -1)+$", "");
+    }
+
+    static String liveOnes(PatternWalk walk) {
+        StringBuilder list = new StringBuilder();
+        for (int k = -2; k < 170; k++) {
+            if (walk.isLive(k)) {
+                list.append(list.length() == 0 ? "" : " ").append(k);
+            }
+        }
+        return list.toString();
+    }
+
+    static String times(String text, int count) {
+        return text.repeat(count);
+    }
+
+    /** Numbers that look like chance and are the same in every run. */
+    static final class Numbers {
+        private long state;
+
+        Numbers(long seed) {
+            state = seed;
+        }
+
+        int below(int bound) {
+            state = state * 6364136223846793005L + 1442695040888963407L;
+            return (int) ((state >>> 33) % bound);
+        }
+
+        String pick(String[] from) {
+            return from[below(from.length)];
+        }
+    }
+}
