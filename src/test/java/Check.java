@@ -77,8 +77,8 @@ final class Check {
     static String listing(PatternWalk walk) {
         String[] names = {"TAKE", "SPLIT", "JUMP", "MARK", "MATCH"};
         StringBuilder list = new StringBuilder();
-        for (int k = 0; walk.instruction(k, 0) != PatternWalk.NONE; k++) {
-            int kind = walk.instruction(k, 0);
+        int kind = walk.instruction(0, 0);
+        for (int k = 0; kind != PatternWalk.NONE; k++) {
             list.append(k == 0 ? "" : "; ").append(names[kind]);
             if (kind != 4) {
                 list.append(' ').append(walk.instruction(k, 1));
@@ -86,6 +86,7 @@ final class Check {
             if (kind == 1) {
                 list.append(' ').append(walk.instruction(k, 2));
             }
+            kind = walk.instruction(k + 1, 0);
         }
         return list.toString();
     }
@@ -98,9 +99,14 @@ final class Check {
         return list.toString().replaceAll("( -1)+$", "");
     }
 
+    /** For short programs: an object is good for 512 calls alone. */
     static String liveOnes(PatternWalk walk) {
+        return liveOnes(walk, 30);
+    }
+
+    static String liveOnes(PatternWalk walk, int bound) {
         StringBuilder list = new StringBuilder();
-        for (int k = -2; k < 170; k++) {
+        for (int k = -1; k < bound; k++) {
             if (walk.isLive(k)) {
                 list.append(list.length() == 0 ? "" : " ").append(k);
             }

@@ -19,7 +19,12 @@ public final class ModelTests {
             damaged(new Check.Numbers(50000 + seed));
         }
         for (int seed = 0; seed < 6000; seed++) {
-            walks(new Check.Numbers(90000 + seed));
+            Check.Numbers numbers = new Check.Numbers(90000 + seed);
+            walks(numbers, choice(numbers, 0));
+        }
+        for (int seed = 0; seed < 1500; seed++) {
+            Check.Numbers numbers = new Check.Numbers(130000 + seed);
+            walks(numbers, nested(numbers));
         }
         check.end();
     }
@@ -46,6 +51,18 @@ public final class ModelTests {
         return numbers.below(3) == 0 ? numbers.pick(ATOMS) : ATOMS[numbers.below(3)];
     }
 
+    /** Groups in one another, as deep as they may be and one deeper, with little in each. */
+    private static String nested(Check.Numbers numbers) {
+        String text = numbers.pick(ATOMS);
+        int depth = 5 + numbers.below(5);
+        for (int i = 0; i < depth; i++) {
+            String count = numbers.below(3) == 0 ? numbers.pick(COUNTS) : "";
+            String beside = numbers.below(4) == 0 ? numbers.pick(new String[] {"a", "|", "b|", "()", "(b)"}) : "";
+            text = (i % 3 == 0 ? "(?:" : "(") + beside + text + ")" + count;
+        }
+        return text;
+    }
+
     private static void shreds(Check.Numbers numbers) {
         StringBuilder text = new StringBuilder();
         int count = 1 + numbers.below(9);
@@ -69,9 +86,10 @@ public final class ModelTests {
         compare(text.toString());
     }
 
-    private static PatternWalk compare(String text) {
+    /** Whether it has a program, which then is the model's. */
+    private static boolean compare(String text) {
         if (text.length() > 48) {
-            return null;
+            return false;
         }
         PatternWalk walk = Check.written(text);
         int error = Model.error(text);
@@ -79,36 +97,37 @@ public final class ModelTests {
         int want = error >= 0 ? Check.NO_PATTERN : code.size() > 160 ? Check.WRONG_STATE : code.size();
         check.due("compile of " + text, Check.compile(walk), want);
         check.due("position of " + text, walk.position(), error);
-        if (want <= 0) {
-            return null;
+        if (want > 0) {
+            check.due("program of " + text, Check.listing(walk), Model.listing(code));
         }
-        check.due("program of " + text, Check.listing(walk), Model.listing(code));
-        return walk;
+        return want > 0;
     }
 
-    private static void walks(Check.Numbers numbers) {
-        String text = choice(numbers, 0);
-        PatternWalk walk = compare(text);
-        if (walk == null) {
+    private static void walks(Check.Numbers numbers, String text) {
+        if (!compare(text)) {
             return;
         }
         List<Model.Step> code = Model.program(text);
         for (int round = 0; round < 4; round++) {
+            // A new object for every word, so that none is asked more than 512 times.
+            PatternWalk walk = Check.compiled(text);
             boolean search = numbers.below(2) == 0;
             walk.start(search);
             StringBuilder word = new StringBuilder();
-            same(walk, code, text, word, search);
-            int length = numbers.below(9);
+            int length = numbers.below(10);
             for (int i = 0; i < length; i++) {
+                same(walk, code, text, word, search);
                 char c = "aaaabbbbc1x-^".charAt(numbers.below(13));
                 word.append(c);
                 walk.feed(c);
-                same(walk, code, text, word, search);
             }
+            Model.Outcome want = same(walk, code, text, word, search);
+            String live = want.live.toString().replaceAll("[\\[\\],]", "");
+            check.due("isLive of " + text + " and " + word, Check.liveOnes(walk, code.size() + 1), live);
         }
     }
 
-    private static void same(PatternWalk walk, List<Model.Step> code, String text, StringBuilder word,
+    private static Model.Outcome same(PatternWalk walk, List<Model.Step> code, String text, StringBuilder word,
             boolean search) {
         Model.Outcome want = Model.walk(code, word.toString(), search);
         String where = " of " + text + (search ? " searched in " : " with the whole ") + word;
@@ -120,7 +139,6 @@ public final class ModelTests {
         }
         check.due("marks" + where, Check.marks(walk), marks.toString().trim().replaceAll("( -1)+$", ""));
         check.due("live" + where, walk.live(), want.live.size());
-        String live = want.live.toString().replaceAll("[\\[\\],]", "");
-        check.due("isLive" + where, Check.liveOnes(walk), live);
+        return want;
     }
 }

@@ -123,6 +123,9 @@ public final class ProgramTests {
         inside("(a)+", "MARK 2; TAKE 1; MARK 3; SPLIT 1 5");
         inside("((a)|(b))", "MARK 2; SPLIT 3 7; MARK 4; TAKE 1; MARK 5; JUMP 10; MARK 6; TAKE 1; MARK 7; MARK 3");
         inside("(a){0}(b)", "MARK 4; TAKE 1; MARK 5");
+        inside(Check.times("(?:", 8) + "a|b" + Check.times(")", 8), "SPLIT 2 4; TAKE 1; JUMP 5; TAKE 1");
+        inside("(?:(?:((((((a*?)?)))))))", "MARK 2; MARK 4; MARK 6; MARK 8; MARK 10; SPLIT 7 12; MARK 12; "
+            + "SPLIT 11 9; TAKE 1; JUMP 8; MARK 13; MARK 11; MARK 9; MARK 7; MARK 5; MARK 3");
         check.due("a group that is never written", Check.compiled("(a){0}").groups(), 1);
     }
 

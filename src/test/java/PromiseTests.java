@@ -141,6 +141,26 @@ public final class PromiseTests {
         check.due("new sets", Check.listing(other), "MARK 0; TAKE 2; MARK 1; MATCH");
         other.start(false);
         check.due("a new word", other.fed() + " " + other.matched() + " " + other.live(), "0 false 1");
+        usedAgain();
+    }
+
+    /** One object for its 512 calls: what an earlier pattern left must not be in the way of a later one. */
+    private static void usedAgain() {
+        PatternWalk walk = new PatternWalk();
+        Check.write(walk, Check.times("a", 47) + "(");
+        for (int i = 0; i < 40; i++) {
+            check.due("the same error", Check.compile(walk) + " " + walk.position(), Check.NO_PATTERN + " 48");
+        }
+        for (int round = 0; round < 6; round++) {
+            walk.clear();
+            String letter = String.valueOf((char) ('b' + round));
+            Check.write(walk, Check.times(letter, 46) + "z");
+            check.due("size in round " + round, Check.compile(walk), 50);
+            check.due("a TAKE of one", walk.instruction(46, 1) + " " + walk.instruction(47, 1), "1 1");
+            walk.start(true);
+            Check.feed(walk, letter);
+            check.due("live in round " + round, walk.live() + " " + walk.isLive(2), "2 true");
+        }
     }
 
     private static void instruction() {
