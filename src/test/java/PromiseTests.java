@@ -18,6 +18,9 @@ public final class PromiseTests {
         mark();
         fed();
         callsWithoutProgram();
+        for (int seed = 0; seed < 400; seed++) {
+            anyCalls(new Check.Numbers(seed));
+        }
         check.end();
     }
 
@@ -354,5 +357,41 @@ public final class PromiseTests {
         check.due("mark", walk.mark(0), -1);
         check.due("fed", walk.fed(), -1);
         check.due("instruction", walk.instruction(0, 0), -1);
+    }
+
+    /** 512 calls in any order: only compile throws, and only its two exceptions; what is told fits together. */
+    private static void anyCalls(Check.Numbers numbers) {
+        PatternWalk walk = new PatternWalk();
+        int[] odd = {-1, 0, 1, 2, 5, 13, 14, 159, 160, Integer.MIN_VALUE, Integer.MAX_VALUE};
+        for (int calls = 0; calls < 500; calls += 6) {
+            int k = odd[numbers.below(odd.length)];
+            switch (numbers.below(8)) {
+                case 0:
+                case 1:
+                case 2:
+                    walk.pattern("ab(|)*?+[^-]{2,}\\.".charAt(numbers.below(18)));
+                    break;
+                case 3:
+                    int size = Check.compile(walk);
+                    check.due("an error has a position", walk.position() >= 0, size == Check.NO_PATTERN);
+                    break;
+                case 4:
+                    walk.start(numbers.below(2) == 0);
+                    break;
+                case 5:
+                    walk.feed((char) numbers.below(300));
+                    break;
+                case 6:
+                    walk.instruction(k, odd[numbers.below(odd.length)]);
+                    break;
+                default:
+                    if (numbers.below(8) == 0) {
+                        walk.clear();
+                    }
+                    break;
+            }
+            check.due("a mark needs a match", walk.mark(k) >= 0 && !walk.matched(), false);
+            check.due("what is live is counted", walk.isLive(k) && walk.live() == 0, false);
+        }
     }
 }
