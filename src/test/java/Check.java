@@ -3,19 +3,41 @@ final class Check {
     static final int NO_PATTERN = -101;
     static final int WRONG_STATE = -102;
 
+    private static final long SECONDS = 400;
+
     private final String name;
+    private String sentence = "";
     private int asked = 0;
     private int wrong = 0;
 
     Check(String name) {
         this.name = name;
+        Thread watch = new Thread(this::watch);
+        watch.setDaemon(true);
+        watch.start();
+    }
+
+    /** A call that does not end is to fail the tests, not to hold them up for ever. */
+    private void watch() {
+        try {
+            Thread.sleep(SECONDS * 1000);
+        } catch (InterruptedException e) {
+            return;
+        }
+        System.out.println(name + ": no end after " + SECONDS + " seconds; " + sentence);
+        Runtime.getRuntime().halt(1);
+    }
+
+    /** The document's sentence that the answers from here on are about. */
+    void sentence(String words) {
+        sentence = "[" + words + "] ";
     }
 
     void due(String what, Object got, Object want) {
         asked++;
         if (!String.valueOf(got).equals(String.valueOf(want))) {
             wrong++;
-            System.out.println(name + ": " + what + " answered " + got + ", due is " + want);
+            System.out.println(name + ": " + sentence + what + " answered " + got + ", due is " + want);
         }
     }
 
@@ -27,13 +49,13 @@ final class Check {
     }
 
     /** An object with this pattern written, not compiled. */
-    static PatternWalk written(String pattern) {
-        PatternWalk walk = new PatternWalk();
+    static Counted written(String pattern) {
+        Counted walk = new Counted();
         write(walk, pattern);
         return walk;
     }
 
-    static void write(PatternWalk walk, String pattern) {
+    static void write(Counted walk, String pattern) {
         for (int i = 0; i < pattern.length(); i++) {
             if (!walk.pattern(pattern.charAt(i))) {
                 throw new AssertionError("pattern refuses " + pattern.charAt(i) + " at " + i + " of " + pattern);
@@ -41,20 +63,20 @@ final class Check {
         }
     }
 
-    static PatternWalk compiled(String pattern) {
-        PatternWalk walk = written(pattern);
+    static Counted compiled(String pattern) {
+        Counted walk = written(pattern);
         walk.compile();
         return walk;
     }
 
-    static PatternWalk walked(String pattern, boolean search, String word) {
-        PatternWalk walk = compiled(pattern);
+    static Counted walked(String pattern, boolean search, String word) {
+        Counted walk = compiled(pattern);
         walk.start(search);
         feed(walk, word);
         return walk;
     }
 
-    static void feed(PatternWalk walk, String word) {
+    static void feed(Counted walk, String word) {
         for (int i = 0; i < word.length(); i++) {
             if (!walk.feed(word.charAt(i))) {
                 throw new AssertionError("feed refuses character " + i + " of " + word);
@@ -63,18 +85,37 @@ final class Check {
     }
 
     /** What compile answers, its exceptions as numbers. */
-    static int compile(PatternWalk walk) {
+    static int compile(Counted walk) {
         try {
             return walk.compile();
-        } catch (IllegalArgumentException e) {
-            return NO_PATTERN;
-        } catch (IllegalStateException e) {
-            return WRONG_STATE;
+        } catch (IllegalArgumentException | IllegalStateException e) {
+            if (e.getClass() == IllegalArgumentException.class) {
+                return NO_PATTERN;
+            }
+            if (e.getClass() == IllegalStateException.class) {
+                return WRONG_STATE;
+            }
+            throw e;
         }
     }
 
+    /** What comes of a text: how many instructions, "error at " and where, or "too many". */
+    static String outcome(String text) {
+        return outcome(written(text));
+    }
+
+    static String outcome(Counted walk) {
+        int size = compile(walk);
+        int position = walk.position();
+        if (size == NO_PATTERN) {
+            return "error at " + position;
+        }
+        String told = size == WRONG_STATE ? "too many" : String.valueOf(size);
+        return position == PatternWalk.NONE ? told : told + ", but with an error at " + position;
+    }
+
     /** The program as a text, such as "MARK 0; SPLIT 2 4; TAKE 1; JUMP 1; MARK 1; MATCH". */
-    static String listing(PatternWalk walk) {
+    static String listing(Counted walk) {
         String[] names = {"TAKE", "SPLIT", "JUMP", "MARK", "MATCH"};
         StringBuilder list = new StringBuilder();
         int kind = walk.instruction(0, 0);
@@ -91,7 +132,7 @@ final class Check {
         return list.toString();
     }
 
-    static String marks(PatternWalk walk) {
+    static String marks(Counted walk) {
         StringBuilder list = new StringBuilder();
         for (int k = 0; k < 14; k++) {
             list.append(k == 0 ? "" : " ").append(walk.mark(k));
@@ -100,11 +141,11 @@ final class Check {
     }
 
     /** For short programs: an object is good for 512 calls alone. */
-    static String liveOnes(PatternWalk walk) {
+    static String liveOnes(Counted walk) {
         return liveOnes(walk, 30);
     }
 
-    static String liveOnes(PatternWalk walk, int bound) {
+    static String liveOnes(Counted walk, int bound) {
         StringBuilder list = new StringBuilder();
         for (int k = -1; k < bound; k++) {
             if (walk.isLive(k)) {

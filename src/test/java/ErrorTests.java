@@ -13,14 +13,14 @@ public final class ErrorTests {
     }
 
     private static void error(String text, int at) {
-        PatternWalk walk = Check.written(text);
+        Counted walk = Check.written(text);
         check.due("compile of " + text, Check.compile(walk), Check.NO_PATTERN);
         check.due("position of " + text, walk.position(), at);
         check.due("by the model, of " + text, Model.error(text), at);
     }
 
     private static void fine(String text) {
-        PatternWalk walk = Check.written(text);
+        Counted walk = Check.written(text);
         check.due("compile of " + text, Check.compile(walk) > 0, true);
         check.due("position of " + text, walk.position(), -1);
         check.due("by the model, of " + text, Model.error(text), -1);

@@ -79,24 +79,38 @@ public final class FaceTests {
         check.due("at most twelve classes", inside.length < 12, true);
         for (Class<?> one : inside) {
             check.due(one + " is static", Modifier.isStatic(one.getModifiers()), true);
-            int fields = 0;
-            for (Field field : one.getDeclaredFields()) {
-                fields += Modifier.isStatic(field.getModifiers()) ? 0 : 1;
-            }
-            check.due(one + " has at most twenty fields", fields <= 20, true);
-            for (Method method : one.getDeclaredMethods()) {
-                check.due(method + " bears a name of its own", names.contains(method.getName()), false);
-                check.due(method + " takes at most seven", method.getParameterCount() <= 7, true);
-            }
+            oneClass(one, names);
+        }
+        oneClass(PatternWalk.class, names);
+    }
+
+    private static void oneClass(Class<?> one, Set<String> publicNames) {
+        int fields = 0;
+        for (Field field : one.getDeclaredFields()) {
+            fields += Modifier.isStatic(field.getModifiers()) ? 0 : 1;
+        }
+        check.due(one + " has at most twenty fields", fields <= 20, true);
+        for (Method method : one.getDeclaredMethods()) {
+            boolean borrowed = Modifier.isPrivate(method.getModifiers()) && publicNames.contains(method.getName());
+            check.due(method + " bears the name of a public one", borrowed, false);
+            check.due(method + " takes at most seven", method.getParameterCount() <= 7, true);
         }
     }
 
-    private static void source(String text) {
-        check.due("the only import", found(text, "(?m)^import .*$"), "[import java.util.Arrays;]");
-        check.due("no words that are ruled out", found(text,
-            "\\b(try|catch|finally|synchronized|assert|package|System|Object|lambda|yield|while)\\b|->|::"), "[]");
-        check.due("what is thrown", found(text, "throw new \\w+\\("),
-            "[throw new IllegalArgumentException(, throw new IllegalStateException(]");
+    private static void source(String file) {
+        String text = file.replaceAll("(?s)/\\*.*?\\*/", "").replaceAll("//.*", "");
+        none("imports that rule 4 does not name", text,
+            "(?m)^import (?!java\\.util\\.(Arrays|ArrayList|List|Iterator|NoSuchElementException);).*$");
+        none("words that are ruled out", text, "\\b(finally|synchronized|assert|package|Thread|\\w+Exact)\\b|::");
+        none("of System anything but arraycopy", text, "\\bSystem\\b(?!\\.arraycopy)");
+        none("catching what the machine throws too", text,
+            "catch \\((?!(IllegalState|IllegalArgument|UnsupportedOperation|NoSuchElement)Exception)\\w+");
+        none("throwing what rule 6 does not name", text, "throw (?!new (IllegalState|IllegalArgument|IndexOutOfBounds"
+            + "|Arithmetic|UnsupportedOperation|NoSuchElement|Runtime)Exception\\().*");
+    }
+
+    private static void none(String what, String text, String regex) {
+        check.due(what, found(text, regex), "[]");
     }
 
     private static Set<String> found(String text, String regex) {

@@ -26,6 +26,9 @@ public final class ModelTests {
             Check.Numbers numbers = new Check.Numbers(130000 + seed);
             walks(numbers, nested(numbers));
         }
+        for (int seed = 0; seed < 300; seed++) {
+            longWord(new Check.Numbers(170000 + seed));
+        }
         check.end();
     }
 
@@ -91,7 +94,7 @@ public final class ModelTests {
         if (text.length() > 48) {
             return false;
         }
-        PatternWalk walk = Check.written(text);
+        Counted walk = Check.written(text);
         int error = Model.error(text);
         List<Model.Step> code = error < 0 ? Model.program(text) : null;
         int want = error >= 0 ? Check.NO_PATTERN : code.size() > 160 ? Check.WRONG_STATE : code.size();
@@ -110,7 +113,7 @@ public final class ModelTests {
         List<Model.Step> code = Model.program(text);
         for (int round = 0; round < 4; round++) {
             // A new object for every word, so that none is asked more than 512 times.
-            PatternWalk walk = Check.compiled(text);
+            Counted walk = Check.compiled(text);
             boolean search = numbers.below(2) == 0;
             walk.start(search);
             StringBuilder word = new StringBuilder();
@@ -127,7 +130,31 @@ public final class ModelTests {
         }
     }
 
-    private static Model.Outcome same(PatternWalk walk, List<Model.Step> code, String text, StringBuilder word,
+    /** As long as words may be, and looked at now and then. */
+    private static void longWord(Check.Numbers numbers) {
+        String text = choice(numbers, 2);
+        if (text.length() > 20 || !compare(text)) {
+            return;
+        }
+        List<Model.Step> code = Model.program(text);
+        boolean search = numbers.below(2) == 0;
+        String letters = numbers.pick(new String[] {"a", "aaaaaaab", "ab", "aaabbb1", "ab1c"});
+        Counted walk = Check.compiled(text);
+        walk.start(search);
+        StringBuilder word = new StringBuilder();
+        for (int i = 1; i <= 200; i++) {
+            char c = letters.charAt(numbers.below(letters.length()));
+            word.append(c);
+            walk.feed(c);
+            if (i % 25 == 0 || i == 199) {
+                same(walk, code, text, word, search);
+            }
+        }
+        walk.feed('a');
+        same(walk, code, text, word, search);
+    }
+
+    private static Model.Outcome same(Counted walk, List<Model.Step> code, String text, StringBuilder word,
             boolean search) {
         Model.Outcome want = Model.walk(code, word.toString(), search);
         String where = " of " + text + (search ? " searched in " : " with the whole ") + word;

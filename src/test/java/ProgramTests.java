@@ -20,7 +20,7 @@ public final class ProgramTests {
     }
 
     private static void stands(String atom, String characters, int count) {
-        PatternWalk walk = Check.compiled(atom);
+        Counted walk = Check.compiled(atom);
         check.due("count of " + atom, walk.instruction(1, 1), count);
         StringBuilder got = new StringBuilder();
         for (char c = 32; c < 127; c++) {
@@ -67,11 +67,11 @@ public final class ProgramTests {
         stands("[\\w]", letters, 63);
         stands("[^\\w]", all.replaceAll("\\w", ""), 193);
         stands("[\\^\\-]", "-^", 2);
-        PatternWalk rest = Check.compiled("[^a-z]{3}");
+        Counted rest = Check.compiled("[^a-z]{3}");
         rest.start(false);
         Check.feed(rest, "" + (char) 0 + (char) 255 + (char) 128);
         check.due("codes outside the pattern's own", rest.matched(), true);
-        PatternWalk every = Check.walked("...", false, "" + (char) 0 + (char) 127 + (char) 255);
+        Counted every = Check.walked("...", false, "" + (char) 0 + (char) 127 + (char) 255);
         check.due("a period stands for every one", every.matched(), true);
     }
 

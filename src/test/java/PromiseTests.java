@@ -24,7 +24,7 @@ public final class PromiseTests {
         check.end();
     }
 
-    private static void fresh(String when, PatternWalk walk) {
+    private static void fresh(String when, Counted walk) {
         check.due(when + ": position", walk.position(), -1);
         check.due(when + ": groups", walk.groups(), -1);
         check.due(when + ": instruction", walk.instruction(0, 0), -1);
@@ -40,23 +40,23 @@ public final class PromiseTests {
 
     private static void newObject() {
         check.due("NONE", PatternWalk.NONE, -1);
-        fresh("new", new PatternWalk());
-        PatternWalk one = Check.walked("a", false, "a");
-        PatternWalk other = new PatternWalk();
+        fresh("new", new Counted());
+        Counted one = Check.walked("a", false, "a");
+        Counted other = new Counted();
         fresh("another new one", other);
         check.due("the one beside it", one.matched(), true);
     }
 
     private static void pattern() {
-        PatternWalk walk = new PatternWalk();
+        Counted walk = new Counted();
         for (int code : new int[] {0, 10, 31, 127, 128, 255, 256, 288, 65535}) {
             check.due("pattern of code " + code, walk.pattern((char) code), false);
         }
         check.due("nothing was added", Check.compile(walk), 3);
         for (int code = 32; code <= 126; code++) {
-            check.due("pattern of code " + code, new PatternWalk().pattern((char) code), true);
+            check.due("pattern of code " + code, new Counted().pattern((char) code), true);
         }
-        PatternWalk full = Check.written(Check.times("a", 47));
+        Counted full = Check.written(Check.times("a", 47));
         check.due("the 48th", full.pattern('b'), true);
         check.due("the 49th", full.pattern('c'), false);
         check.due("48 characters", Check.compile(full), 51);
@@ -64,34 +64,34 @@ public final class PromiseTests {
         Check.feed(full, Check.times("a", 47) + "b");
         check.due("the 48 are what was written", full.matched(), true);
         check.due("behind a program", full.pattern('a'), false);
-        PatternWalk short1 = Check.compiled("a");
+        Counted short1 = Check.compiled("a");
         check.due("behind a short program", short1.pattern('a'), false);
         check.due("which stays as it is", Check.listing(short1), "MARK 0; TAKE 1; MARK 1; MATCH");
-        PatternWalk failed = Check.written("(");
+        Counted failed = Check.written("(");
         Check.compile(failed);
         check.due("behind an error", failed.pattern(')'), true);
         check.due("and it counts", Check.compile(failed), 5);
     }
 
     private static void compile() {
-        check.due("empty", Check.compile(new PatternWalk()), 3);
+        check.due("empty", Check.compile(new Counted()), 3);
         check.due("a", Check.compile(Check.written("a")), 4);
         check.due("a(b|c)*d", Check.compile(Check.written("a(b|c)*d")), 13);
         check.due("no pattern", Check.compile(Check.written("a**")), Check.NO_PATTERN);
         check.due("too long", Check.compile(Check.written("(?:a{9}){9}(?:b{9}){9}")), Check.WRONG_STATE);
         check.due("too long and no pattern", Check.compile(Check.written("(?:(?:a{9}){9}){9}*")), Check.NO_PATTERN);
 
-        PatternWalk walk = Check.walked("a*", false, "aa");
+        Counted walk = Check.walked("a*", false, "aa");
         check.due("a second time", Check.compile(walk), Check.WRONG_STATE);
         check.due("the word stays", walk.fed(), 2);
         check.due("the match stays", walk.matched(), true);
         check.due("the position stays", walk.position(), -1);
 
-        PatternWalk idle = Check.compiled("a");
+        Counted idle = Check.compiled("a");
         check.due("the word is not begun", idle.fed(), -1);
         check.due("nothing is fed", idle.feed('a'), false);
 
-        PatternWalk again = Check.written("(?:a{9}){9}(?:b{9}){9}");
+        Counted again = Check.written("(?:a{9}){9}(?:b{9}){9}");
         Check.compile(again);
         check.due("too long leaves no program", again.groups(), -1);
         check.due("too long again", Check.compile(again), Check.WRONG_STATE);
@@ -100,7 +100,7 @@ public final class PromiseTests {
     }
 
     private static void position() {
-        PatternWalk walk = Check.written("ab(c");
+        Counted walk = Check.written("ab(c");
         check.due("before compile", walk.position(), -1);
         Check.compile(walk);
         check.due("something is missing", walk.position(), 4);
@@ -113,7 +113,7 @@ public final class PromiseTests {
         Check.compile(walk);
         check.due("mended", walk.position(), -1);
 
-        PatternWalk late = Check.written("(?:a{9}){9}(?:b{9}){9}(");
+        Counted late = Check.written("(?:a{9}){9}(?:b{9}){9}(");
         Check.compile(late);
         check.due("no pattern, and long", late.position(), 23);
         late.pattern(')');
@@ -122,22 +122,22 @@ public final class PromiseTests {
     }
 
     private static void clear() {
-        PatternWalk walk = Check.walked("(a)b*", true, "xab");
+        Counted walk = Check.walked("(a)b*", true, "xab");
         walk.clear();
         fresh("cleared with a match", walk);
         walk.clear();
         fresh("cleared again", walk);
-        PatternWalk failed = Check.written("a)");
+        Counted failed = Check.written("a)");
         Check.compile(failed);
         failed.clear();
         fresh("cleared after an error", failed);
-        PatternWalk full = Check.written(Check.times("[^a]", 12));
+        Counted full = Check.written(Check.times("[^a]", 12));
         full.clear();
         Check.write(full, "b");
         check.due("a new pattern", Check.compile(full), 4);
         check.due("of one character", full.instruction(1, 1), 1);
         check.due("its word is not begun", full.fed(), -1);
-        PatternWalk other = Check.walked("[^a]{2}", false, "bb");
+        Counted other = Check.walked("[^a]{2}", false, "bb");
         other.clear();
         Check.write(other, "[ab]");
         other.compile();
@@ -149,7 +149,7 @@ public final class PromiseTests {
 
     /** One object for its 512 calls: what an earlier pattern left must not be in the way of a later one. */
     private static void usedAgain() {
-        PatternWalk walk = new PatternWalk();
+        Counted walk = new Counted();
         Check.write(walk, Check.times("a", 47) + "(");
         for (int i = 0; i < 40; i++) {
             check.due("the same error", Check.compile(walk) + " " + walk.position(), Check.NO_PATTERN + " 48");
@@ -167,7 +167,7 @@ public final class PromiseTests {
     }
 
     private static void instruction() {
-        PatternWalk walk = Check.compiled("(a|.)+?");
+        Counted walk = Check.compiled("(a|.)+?");
         String[] want = {"3 0 0", "3 2 0", "1 3 5", "0 1 0", "2 6 0", "0 256 0", "3 3 0", "1 8 1", "3 1 0", "4 0 0"};
         for (int k = 0; k < want.length; k++) {
             String got = walk.instruction(k, 0) + " " + walk.instruction(k, 1) + " " + walk.instruction(k, 2);
@@ -181,7 +181,7 @@ public final class PromiseTests {
         for (int what : new int[] {-1, 3, 4, Integer.MIN_VALUE, Integer.MAX_VALUE}) {
             check.due("instruction(7, " + what + ")", walk.instruction(7, what), -1);
         }
-        PatternWalk longest = Check.compiled("(?:a{9}){9}(?:b{9}){8}aaaa");
+        Counted longest = Check.compiled("(?:a{9}){9}(?:b{9}){8}aaaa");
         check.due("the last of 160", longest.instruction(159, 0), 4);
         check.due("behind the last of 160", longest.instruction(160, 0), -1);
     }
@@ -195,7 +195,7 @@ public final class PromiseTests {
         check.due("six", Check.compiled("()()()()()()").groups(), 6);
         check.due("no brackets", Check.compiled("\\(a[(]").groups(), 0);
         check.due("written only", Check.written("(a)").groups(), -1);
-        PatternWalk failed = Check.written("(a)(");
+        Counted failed = Check.written("(a)(");
         Check.compile(failed);
         check.due("no pattern", failed.groups(), -1);
         failed.clear();
@@ -205,7 +205,7 @@ public final class PromiseTests {
     }
 
     private static void start() {
-        PatternWalk walk = Check.written("a");
+        Counted walk = Check.written("a");
         check.due("no program", walk.start(true), false);
         check.due("nothing begun", walk.fed(), -1);
         walk.compile();
@@ -226,7 +226,7 @@ public final class PromiseTests {
     }
 
     private static void feed() {
-        PatternWalk walk = Check.compiled(".*");
+        Counted walk = Check.compiled(".*");
         check.due("not begun", walk.feed('a'), false);
         walk.start(false);
         for (int code : new int[] {256, 257, 353, 65535}) {
@@ -243,7 +243,7 @@ public final class PromiseTests {
         check.due("the 201st", walk.feed('x'), false);
         check.due("200 stay", walk.fed() + " " + Check.marks(walk), "200 0 200");
         check.due("begun anew", walk.start(true) && walk.feed('x'), true);
-        PatternWalk dead = Check.walked("a", false, "b");
+        Counted dead = Check.walked("a", false, "b");
         check.due("where nothing can match", dead.feed('b'), true);
         check.due("it counts", dead.fed(), 2);
         dead.clear();
@@ -251,7 +251,7 @@ public final class PromiseTests {
     }
 
     private static void matched() {
-        PatternWalk walk = Check.compiled("ab?");
+        Counted walk = Check.compiled("ab?");
         check.due("not begun", walk.matched(), false);
         walk.start(false);
         check.due("nothing", walk.matched(), false);
@@ -275,7 +275,7 @@ public final class PromiseTests {
     }
 
     private static void live() {
-        PatternWalk walk = Check.compiled("a(?:b|c|d)e");
+        Counted walk = Check.compiled("a(?:b|c|d)e");
         check.due("not begun", walk.live(), 0);
         walk.start(false);
         check.due("at first", walk.live(), 1);
@@ -293,7 +293,7 @@ public final class PromiseTests {
     }
 
     private static void isLive() {
-        PatternWalk walk = Check.compiled("ab*");
+        Counted walk = Check.compiled("ab*");
         check.due("not begun", walk.isLive(1), false);
         walk.start(false);
         check.due("at first", Check.liveOnes(walk), "1");
@@ -313,7 +313,7 @@ public final class PromiseTests {
     }
 
     private static void mark() {
-        PatternWalk walk = Check.compiled("(a)|(b)");
+        Counted walk = Check.compiled("(a)|(b)");
         check.due("not begun", Check.marks(walk), "-1");
         walk.start(false);
         check.due("nothing matched", Check.marks(walk), "-1");
@@ -327,12 +327,12 @@ public final class PromiseTests {
         walk.start(true);
         Check.feed(walk, "xxbxa");
         check.due("searched", Check.marks(walk), "2 3 -1 -1 2 3");
-        PatternWalk six = Check.walked("(a)(b)(c)(d)(e)(f)", false, "abcdef");
+        Counted six = Check.walked("(a)(b)(c)(d)(e)(f)", false, "abcdef");
         check.due("all fourteen", Check.marks(six), "0 6 0 1 1 2 2 3 3 4 4 5 5 6");
     }
 
     private static void fed() {
-        PatternWalk walk = Check.compiled("a");
+        Counted walk = Check.compiled("a");
         check.due("not begun", walk.fed(), -1);
         walk.start(true);
         check.due("begun", walk.fed(), 0);
@@ -347,7 +347,7 @@ public final class PromiseTests {
     }
 
     private static void callsWithoutProgram() {
-        PatternWalk walk = Check.written("(a");
+        Counted walk = Check.written("(a");
         Check.compile(walk);
         check.due("start", walk.start(false) || walk.start(true), false);
         check.due("feed", walk.feed('a'), false);
@@ -361,7 +361,7 @@ public final class PromiseTests {
 
     /** 512 calls in any order: only compile throws, and only its two exceptions; what is told fits together. */
     private static void anyCalls(Check.Numbers numbers) {
-        PatternWalk walk = new PatternWalk();
+        Counted walk = new Counted();
         int[] odd = {-1, 0, 1, 2, 5, 13, 14, 159, 160, Integer.MIN_VALUE, Integer.MAX_VALUE};
         for (int calls = 0; calls < 500; calls += 6) {
             int k = odd[numbers.below(odd.length)];

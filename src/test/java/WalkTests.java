@@ -14,14 +14,14 @@ public final class WalkTests {
     }
 
     private static void marks(String pattern, boolean search, String word, String want) {
-        PatternWalk walk = Check.walked(pattern, search, word);
+        Counted walk = Check.walked(pattern, search, word);
         String where = pattern + (search ? " searched in " : " with the whole ") + word;
         check.due("marks of " + where, Check.marks(walk), want);
         check.due("matched of " + where, walk.matched(), !want.equals("-1"));
     }
 
     private static void live(String pattern, boolean search, String word, String want) {
-        PatternWalk walk = Check.walked(pattern, search, word);
+        Counted walk = Check.walked(pattern, search, word);
         String where = pattern + (search ? " searched in " : " with the whole ") + word;
         check.due("live ones of " + where, Check.liveOnes(walk), want);
         check.due("live of " + where, walk.live(), want.isEmpty() ? 0 : want.split(" ").length);
@@ -100,7 +100,7 @@ public final class WalkTests {
     }
 
     private static void laterMatchTakesOver() {
-        PatternWalk walk = Check.compiled("b|abcd|abc");
+        Counted walk = Check.compiled("b|abcd|abc");
         walk.start(true);
         Check.feed(walk, "ab");
         check.due("the later start is all there is yet", Check.marks(walk), "1 2");
@@ -119,12 +119,12 @@ public final class WalkTests {
     }
 
     private static void longWords() {
-        PatternWalk walk = Check.walked("(a|b)*c", true, Check.times("ab", 99) + "a");
+        Counted walk = Check.walked("(a|b)*c", true, Check.times("ab", 99) + "a");
         check.due("not yet", walk.matched() + " " + walk.live(), "false 3");
         walk.feed('c');
         check.due("200 characters", Check.marks(walk), "0 200 198 199");
         check.due("no more", walk.feed('c'), false);
-        PatternWalk wide = Check.walked("(?:a{0,9}){0,7}", false, Check.times("a", 63));
+        Counted wide = Check.walked("(?:a{0,9}){0,7}", false, Check.times("a", 63));
         check.due("as much as there can be", Check.marks(wide) + " " + wide.live(), "0 63 0");
         wide.feed('a');
         check.due("one more", wide.matched(), false);
