@@ -13,6 +13,11 @@ final class Counted {
         return walk;
     }
 
+    /** How many calls are left of the 512. */
+    int left() {
+        return CALLS - calls;
+    }
+
     boolean pattern(char c) {
         return asked().pattern(c);
     }

@@ -235,6 +235,14 @@ final class Model {
         return code;
     }
 
+    /** How many groups with a number a pattern has. */
+    static int groups(String pattern) {
+        Model model = new Model();
+        model.text.append(pattern);
+        model.choice();
+        return model.groups;
+    }
+
     static String listing(List<Step> code) {
         List<String> all = new ArrayList<>();
         for (int k = 0; k < code.size(); k++) {

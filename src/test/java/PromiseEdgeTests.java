@@ -53,6 +53,8 @@ public final class PromiseEdgeTests {
         markNothingMatched();
         fedCount();
         fedNone();
+        all512Calls();
+        wordsFor512Calls();
         check.end();
     }
 
@@ -773,5 +775,45 @@ public final class PromiseEdgeTests {
         check.due("cleared", walk.fed(), -1);
         walk.compile();
         check.due("compiled anew", walk.fed(), -1);
+    }
+
+    private static void all512Calls() {
+        check.sentence("An object is used for at most 512 calls after it has been made");
+        Counted wrong = Check.written(Check.times("a", 47) + "(");
+        while (wrong.left() > 1) {
+            check.due("compile with " + wrong.left() + " left", Check.compile(wrong), Check.NO_PATTERN);
+        }
+        check.due("the 512th call", wrong.position(), 48);
+        Counted late = Check.written("(?:(?:((((((a{9}){9}){9}){9}){9}){9}){9}){9}){9}");
+        while (late.left() > 1) {
+            check.due("compile with " + late.left() + " left", Check.compile(late), Check.WRONG_STATE);
+        }
+        check.due("the 512th call of another", Check.compile(late), Check.WRONG_STATE);
+        Counted cleared = new Counted();
+        while (cleared.left() >= 6 + 3) {
+            cleared.clear();
+            Check.write(cleared, ".+");
+            check.due("compile with " + cleared.left() + " left", Check.compile(cleared), 5);
+            check.due("start with " + cleared.left() + " left", cleared.start(true) && cleared.feed('a'), true);
+        }
+        while (cleared.left() > 3) {
+            cleared.feed('a');
+        }
+        check.due("the last calls of a third", cleared.mark(0) + " " + cleared.live() + " " + cleared.matched(), "0 1 true");
+    }
+
+    private static void wordsFor512Calls() {
+        check.sentence("An object is used for at most 512 calls after it has been made");
+        Counted walk = Check.compiled("(?:a{9}){9}(?:a{9}){8}aaaa");
+        for (int round = 0; round < 3; round++) {
+            walk.start(true);
+            Check.feed(walk, Check.times("a", 155));
+        }
+        while (walk.left() > 3) {
+            check.due("with " + walk.left() + " left", walk.fed(), 155);
+        }
+        check.due("the 510th call", walk.feed('a'), true);
+        check.due("the 511th call", walk.live(), 157);
+        check.due("the 512th call", walk.feed('a'), true);
     }
 }
