@@ -342,6 +342,9 @@ public final class TermEdgeTests {
         taken("[^ -~]", 0, 31, 127, 255);
         notTaken("[^ -~]", 32, 33, 125, 126);
         check.due("what several items stand for", standsFor("[^\\d0-9a5]"), 245);
+        Counted beside = Check.compiled("1[^1]1[^b]2");
+        check.due("what stands beside it", Check.listing(beside),
+            "MARK 0; TAKE 1; TAKE 255; TAKE 1; TAKE 255; TAKE 1; MARK 1; MATCH");
         check.due("a ^ that is escaped", standsFor("[\\^b]"), 2);
         taken("[\\^b]", '^', 'b');
     }
