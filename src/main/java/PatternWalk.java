@@ -310,11 +310,16 @@ public final class PatternWalk {
 
         private Repeat readRepeat(int depth) {
             Repeat repeat = new Repeat();
-            if (peek() == '(') {
+            int c = peek();
+            if (c == '(') {
                 readGroup(repeat, depth);
             } else {
                 repeat.set = sets.open();
-                readCharacters(repeat.set);
+                if (c == '[') {
+                    readSet(repeat.set);
+                } else {
+                    readCharacter(repeat.set);
+                }
             }
             if (error == NONE) {
                 readCount(repeat);
@@ -354,13 +359,9 @@ public final class PatternWalk {
             }
         }
 
-        private void readCharacters(int set) {
+        private void readCharacter(int set) {
             int c = peek();
-            if (c == '[') {
-                at++;
-                readSet(set);
-            } else if (c == '\\') {
-                at++;
+            if (c == '\\') {
                 readEscaped(set);
             } else if (c == '.') {
                 at++;
@@ -395,13 +396,18 @@ public final class PatternWalk {
         }
 
         private void readSet(int set) {
+            at++;
             boolean inverted = peek() == '^';
             if (inverted) {
                 at++;
             }
             boolean more = true;
             for (int turn = 0; turn < MAX_PATTERN && more; turn++) {
-                readItem(set);
+                if (peek() == '\\') {
+                    readEscaped(set);
+                } else {
+                    readItem(set);
+                }
                 more = error == NONE && peek() != ']';
             }
             if (error == NONE) {
@@ -414,11 +420,6 @@ public final class PatternWalk {
 
         private void readItem(int set) {
             int from = peek();
-            if (from == '\\') {
-                at++;
-                readEscaped(set);
-                return;
-            }
             if (!isItem(from)) {
                 fail();
                 return;
@@ -442,6 +443,7 @@ public final class PatternWalk {
         }
 
         private void readEscaped(int set) {
+            at++;
             int c = peek();
             if (c == NONE) {
                 fail();
